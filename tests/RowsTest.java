@@ -131,6 +131,12 @@ public final class RowsTest {
         CHECK.due("ask(0, 0) at a pace of 60", x.ask(0, 0), RowShutter.NONE);
         RowShutter dark = Check.told("saw 1 12 0; rows 1; delay 0; expose 1;");
         CHECK.due("ask(0, 0) of a lamp that gives nothing", dark.ask(0, 0), RowShutter.NONE);
+        // the row is full by the other lamps, by all phases or by most, in the shots ahead of the last
+        RowShutter full = Check.told(
+                "blink 9 12 9; saw 9 12 11; pair 8 12 6; blink 8 11 7; rows 1; delay 2; expose 15; pace 45;");
+        full.rest(1);
+        CHECK.due("ask(0, 0) at the last shot", full.ask(0, 0), 200);
+        CHECK.due("ask(0, 1) at the last shot", full.ask(0, 1), 4);
     }
 
     private static void drift() {

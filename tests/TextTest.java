@@ -150,6 +150,8 @@ public final class TextTest {
         faulty("row 1;", 2, 0);
         faulty("rowss 1;", 2, 0);
         faulty("rowsrows 1;", 2, 0);
+        faulty("bows 1;", 2, 0);
+        faulty("rowb 1;", 2, 0);
         faulty("5;", 2, 0);
         faulty(" ;", 2, 1);
         faulty("rows 4;;", 2, 7);

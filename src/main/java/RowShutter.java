@@ -526,7 +526,7 @@ public final class RowShutter {
         return most;
     }
 
-    /** Makes the draft the SHOT of which all LAMPS but steady ones fail. */
+    /** The draft is as now, but that all LAMPS but steady ones fail. */
     private void draftSteadyLamps() {
         draft.copyFrom(now);
         for (int l = 0; l < draft.lampCount; l++) {
@@ -538,12 +538,12 @@ public final class RowShutter {
 
     private static long inLowestTerms(long top, long bottom, int what) {
         long divisor = top;
-        long rest = bottom;
+        long other = bottom;
         // Euclid's steps for two longs are fewer than a hundred
-        for (int step = 0; step < 100 && rest != 0; step++) {
-            long left = divisor % rest;
-            divisor = rest;
-            rest = left;
+        for (int step = 0; step < 100 && other != 0; step++) {
+            long left = divisor % other;
+            divisor = other;
+            other = left;
         }
         if (divisor < 1) {
             return what == 0 ? top : bottom;
