@@ -208,16 +208,27 @@ public final class SheetTest {
         phasesAre(x, 5, 6, 3);
     }
 
-    /** The machine finds a wrong cast where the sheet is taken, but nothing and bounds only where a cell is. */
+    /** Where nothing is read the machine finds nothing; each time a FAULT stands ahead, so that a torn() that stays shows. */
     private static void readOfNoPairs() {
-        RowShutter x = laid(0, 0, 5);
-        x.read(0, 0, 0, 1);
-        CHECK.due("no pairs of nothing", x.read(0, 0, 0, 0), 0);
-        CHECK.due("torn()", x.torn(), 0);
-        CHECK.due("no pairs of another lane", x.read(1, 1, 0, 0), 0);
-        CHECK.due("torn()", x.torn(), 3);
-        CHECK.due("no pairs from no cell", x.read(1, 0, -1, 0), 0);
-        CHECK.due("torn()", x.torn(), 0);
+        for (int lane = 0; lane <= 2; lane++) {
+            RowShutter x = laid(lane, 0, 5);
+            for (int as = 0; as <= 2; as++) {
+                noPairs(x, "nothing", 0, as, 0);
+                noPairs(x, "lane " + lane + " as of " + as, 1, as, 0);
+                noPairs(x, "lane " + lane + " as of " + as + ", from no cell", 1, as, -1);
+            }
+            x.sheet(2, lane, 0);
+            for (int as = 0; as <= 2; as++) {
+                noPairs(x, "no cells of lane " + lane + " as of " + as, 2, as, 0);
+            }
+        }
+    }
+
+    private static void noPairs(RowShutter x, String of, int k, int as, int f) {
+        x.read(3, 0, 0, 1);
+        CHECK.due("torn() ahead", x.torn(), 1);
+        CHECK.due("no pairs of " + of, x.read(k, as, f, 0), 0);
+        CHECK.due("torn() behind no pairs of " + of, x.torn(), 0);
     }
 
     private static void torn() {

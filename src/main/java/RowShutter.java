@@ -424,11 +424,11 @@ public final class RowShutter {
             return BAD;
         }
         Sheet sheet = sheets[k];
-        int met = sheet.faultAs(lane);
+        int met = 0;
         int whole = 0;
         for (int i = 0; i < n && met == 0; i++) {
             int at = f + 2 * i;
-            met = sheet.faultOfPair(at);
+            met = sheet.faultOfPair(lane, at);
             if (met == 0) {
                 if (!isPhaseOfLamp(sheet, at)) {
                     return REFUSED_BASE - i;
@@ -1005,14 +1005,13 @@ public final class RowShutter {
             return i < 0 || i >= size ? FAULT_INDEX : 0;
         }
 
-        int faultOfPair(int i) {
+        /** The lane is looked at with each pair, not once ahead: where no pair is read there is no FAULT. */
+        int faultOfPair(int wanted, int i) {
+            if (lane != NOTHING && lane != wanted) {
+                return FAULT_CAST;
+            }
             int first = faultAt(i);
             return first != 0 ? first : faultAt(i + 1);
-        }
-
-        /** What the machine would find where the whole is taken as of a lane: nothing may be taken as of any. */
-        int faultAs(int wanted) {
-            return lane == NOTHING || lane == wanted ? 0 : FAULT_CAST;
         }
 
         void store(int i, int v) {
