@@ -50,4 +50,17 @@ final class Check {
         }
         return x;
     }
+
+    /** Goes to a TICK that is not past; what far ways need are SHOTS, for rest() goes but 60 TICKS. */
+    static void toTick(RowShutter x, int tick) {
+        int pace = x.rule(6);
+        x.tell(3, 60);
+        while (tick - x.rule(2) >= 2400) {
+            x.shoot(40);
+        }
+        x.tell(3, pace);
+        while (x.rule(2) < tick) {
+            x.rest(Math.min(60, tick - x.rule(2)));
+        }
+    }
 }

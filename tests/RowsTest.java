@@ -139,10 +139,17 @@ public final class RowsTest {
         CHECK.due("ask(0, 1) at the last shot", full.ask(0, 1), 4);
     }
 
-    private static void drift() {
+    private static RowShutter threeSaws() {
         RowShutter x = Check.told("saw 9 9 5; saw 9 9 7; saw 9 9 2; rows 1; delay 0; expose 1; pace 7;");
         x.rest(3);
+        return x;
+    }
+
+    private static void drift() {
+        RowShutter x = threeSaws();
         for (int seed : new int[] {0, 1, -1, 7, 123456789, Integer.MAX_VALUE, Integer.MIN_VALUE}) {
+            // an object is good for 512 calls
+            x = threeSaws();
             for (int n = 1; n <= 40; n++) {
                 int[] phases = {5, 7, 2};
                 long state = seed & 0xffffffffL;
