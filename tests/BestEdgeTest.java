@@ -19,6 +19,7 @@ public final class BestEdgeTest {
         out();
         outOfSeveral();
         outNone();
+        askedOfNow();
         SAYS.finish();
     }
 
@@ -268,5 +269,45 @@ public final class BestEdgeTest {
         out("saw 9 9 8;rows 2;delay 1;expose 1;", 0, RowShutter.NONE, RowShutter.NONE);
         out("saw 9 9 8;rows 1;", 40, RowShutter.NONE, RowShutter.NONE);
         out("saw 9 9 8;delay 0;", 40, RowShutter.NONE, RowShutter.NONE);
+    }
+
+    /** A text, changed call by call into pair 7 11 8; saw 4 10 0; rows 3; delay 1; expose 2; pace 3; at TICK 5. */
+    private static RowShutter changed() {
+        RowShutter x = Check.told("saw 9 9 2;rows 8;delay 9;expose 20;pace 60;");
+        x.alter(0, 0, 3);
+        x.alter(0, 1, 7);
+        x.alter(0, 2, 11);
+        x.alter(0, 3, 8);
+        x.put(2, 4, 10);
+        int[] rules = {3, 1, 2, 3};
+        for (int what = 0; what < 4; what++) {
+            x.tell(what, rules[what]);
+        }
+        x.rest(5);
+        return x;
+    }
+
+    /** What is best is so of how all is now, not of how it was when a text was told or another question asked. */
+    private static void askedOfNow() {
+        int[][] best = {{0, 0}, {11, 3}, {5, 1}};
+        for (int what = 0; what <= 1; what++) {
+            SAYS.of(19, "are least");
+            for (int which = 1; which <= 3; which++) {
+                SAYS.due("best(" + which + ", 2, " + what + ")", changed().best(which, 2, what), best[which - 1][what]);
+            }
+            SAYS.of(20, "are least");
+            SAYS.due("kind(0, 2, " + what + ")", changed().kind(0, 2, what), what == 0 ? 2 : 4);
+            SAYS.due("kind(1, 2, " + what + ")", changed().kind(1, 2, what), what == 0 ? 3 : 2);
+            SAYS.of(21, "are least");
+            SAYS.due("phase(0, 2, " + what + ")", changed().phase(0, 2, what), what == 0 ? 1 : 2);
+            SAYS.due("phase(1, 2, " + what + ")", changed().phase(1, 2, what), what == 0 ? 4 : 3);
+            SAYS.of(22, "are least");
+            SAYS.due("out(2, " + what + ")", changed().out(2, what), what == 0 ? 1 : 4);
+        }
+        RowShutter x = changed();
+        x.luck(10, 1, 0, 0);
+        SAYS.due("out(2, 1) behind luck()", x.out(2, 1), 4);
+        x.drift(1, 40, 0);
+        SAYS.due("out(2, 1) behind drift()", x.out(2, 1), 4);
     }
 }

@@ -7,6 +7,7 @@ public final class ChangeEdgeTest {
 
     public static void main(String[] args) {
         alter();
+        alterIsSeen();
         alterRefuses();
         tell();
         put();
@@ -46,6 +47,24 @@ public final class ChangeEdgeTest {
         x.alter(0, 0, 1);
         SAYS.due("what it gives then", x.lamp(0, 4), 9);
         SAYS.due("the same once more", x.alter(0, 3, 11), 11);
+    }
+
+    /** What a LAMP gives is by what it has become, in whatever order. */
+    private static void alterIsSeen() {
+        String[] kinds = {"steady", "blink", "saw", "pair"};
+        int[] parts = {2, 9, 9, 3};
+        RowShutter x = Check.told("saw 9 9 3;expose 7;");
+        int[][] steps = {{1, 4}, {2, 12}, {3, 11}, {0, 3}, {2, 5}, {1, 9}, {0, 1}, {3, 0}, {2, 1}, {0, 2}, {2, 7}, {1, 8}, {0, 0}};
+        for (int[] step : steps) {
+            x.alter(0, step[0], step[1]);
+            parts[step[0]] = step[1];
+            String text = kinds[parts[0]] + " " + parts[1] + " " + parts[2] + " " + parts[3] + ";";
+            RowShutter told = Check.told(text + "expose 7;");
+            SAYS.due("what gives " + text, x.lamp(0, 4), told.lamp(0, 4));
+            for (int n = 0; n < 5; n++) {
+                SAYS.due("how bright by " + text, x.ahead(n, 3), told.ahead(n, 3));
+            }
+        }
     }
 
     private static void alterRefuses() {

@@ -95,16 +95,16 @@ public final class OddsEdgeTest {
 
     private static void luckRefuses() {
         SAYS.of(23, "BAD.");
-        RowShutter x = Check.told(EVER);
         for (int v : new int[] {-1, 11, MIN, MAX}) {
-            SAYS.due("luck(" + v + ", 1, 1, 0)", x.luck(v, 1, 1, 0), RowShutter.BAD);
+            luck(EVER, v, 1, 1, RowShutter.BAD, RowShutter.BAD);
         }
         for (int n : new int[] {-1, 9, MIN, MAX}) {
-            SAYS.due("luck(1, " + n + ", 1, 0)", x.luck(1, n, 1, 0), RowShutter.BAD);
+            luck(EVER, 1, n, 1, RowShutter.BAD, RowShutter.BAD);
         }
         for (int b : new int[] {-1, 256, MIN, MAX}) {
-            SAYS.due("luck(1, 1, " + b + ", 0)", x.luck(1, 1, b, 0), RowShutter.BAD);
+            luck(EVER, 1, 1, b, RowShutter.BAD, RowShutter.BAD);
         }
+        RowShutter x = Check.told(EVER);
         for (int what : new int[] {-1, 2, MIN, MAX}) {
             SAYS.due("luck(1, 1, 1, " + what + ")", x.luck(1, 1, 1, what), RowShutter.BAD);
             SAYS.due("luck(1, 0, 1, " + what + ")", x.luck(1, 0, 1, what), RowShutter.BAD);
@@ -155,13 +155,13 @@ public final class OddsEdgeTest {
 
     private static void meanRefuses() {
         SAYS.of(24, "BAD.");
-        RowShutter x = Check.told(EVER);
         for (int v : new int[] {-1, 11, MIN, MAX}) {
-            SAYS.due("mean(" + v + ", 1, 0)", x.mean(v, 1, 0), RowShutter.BAD);
+            mean(EVER, v, 1, RowShutter.BAD, RowShutter.BAD);
         }
         for (int n : new int[] {-1, 9, MIN, MAX}) {
-            SAYS.due("mean(1, " + n + ", 0)", x.mean(1, n, 0), RowShutter.BAD);
+            mean(EVER, 1, n, RowShutter.BAD, RowShutter.BAD);
         }
+        RowShutter x = Check.told(EVER);
         for (int what : new int[] {-1, 2, MIN, MAX}) {
             SAYS.due("mean(1, 1, " + what + ")", x.mean(1, 1, what), RowShutter.BAD);
             SAYS.due("mean(1, 0, " + what + ")", x.mean(1, 0, what), RowShutter.BAD);

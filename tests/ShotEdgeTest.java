@@ -26,6 +26,7 @@ public final class ShotEdgeTest {
         whenRefuses();
         again();
         againNone();
+        sawByCalls();
         SAYS.finish();
     }
 
@@ -141,6 +142,8 @@ public final class ShotEdgeTest {
         // 195 in 13 ticks; 7 times 9 more is 258, 6 times 9 more is 249: every other row is full
         RowShutter some = Check.told(fifteen + "blink 9 2 0;rows 8;delay 1;expose 13;");
         SAYS.due("of every other row", some.runs(10, 3), 40);
+        some.shoot(3);
+        SAYS.due("of every other row, some shots on", some.runs(10, 3), 40);
         SAYS.due("without a lamp", new RowShutter().runs(40, 3), 0);
     }
 
@@ -243,5 +246,39 @@ public final class ShotEdgeTest {
         // 6 and 7: SHOT 42 is the first
         SAYS.due("by periods of 6 and 7", Check.told("saw 9 6 0;saw 9 7 0;rows 8;delay 1;expose 1;pace 1;").again(), RowShutter.NONE);
         SAYS.due("by periods of 7, 11 and 12", Check.told("saw 9 7 0;saw 9 11 0;saw 9 12 0;rows 8;delay 1;expose 1;pace 1;").again(), RowShutter.NONE);
+    }
+
+    /** SAW, made of an object that has been told no text. */
+    private static RowShutter saw() {
+        RowShutter x = new RowShutter();
+        x.put(2, 9, 9);
+        x.alter(0, 3, 2);
+        int[] rules = {2, 1, 1, 1};
+        for (int what = 0; what < 4; what++) {
+            x.tell(what, rules[what]);
+        }
+        return x;
+    }
+
+    /** What the calls answer is of how all is now, not of what a text told. */
+    private static void sawByCalls() {
+        SAYS.of(14, "the greatest BANDS of them");
+        SAYS.due("shoot(6)", saw().shoot(6), 1);
+        SAYS.due("shoot(7)", saw().shoot(7), 8);
+        SAYS.of(15, "BY SHOTS");
+        SAYS.due("runs(7, 0)", saw().runs(7, 0), 8);
+        SAYS.due("runs(7, 1)", saw().runs(7, 1), 1);
+        SAYS.due("runs(2, 2)", saw().runs(2, 2), 2 + 3 + 3 + 4);
+        RowShutter full = saw();
+        full.put(0, 9, 1);
+        full.put(0, 9, 1);
+        full.tell(2, 20);
+        SAYS.due("runs(2, 3)", full.runs(2, 3), 4);
+        SAYS.of(16, "BY SHOTS");
+        SAYS.due("ahead(4, 1)", saw().ahead(4, 1), 7);
+        SAYS.of(17, "BY SHOTS");
+        SAYS.due("when(8)", saw().when(8), 6);
+        SAYS.of(18, "BY SHOTS");
+        SAYS.due("again()", saw().again(), 9);
     }
 }

@@ -461,6 +461,23 @@ public final class TermsEdgeTest {
         faulty("saw 1", 2, 5);
         faulty("saw 1 1", 2, 7);
         faulty("saw 1 1 1", 2, 9);
+        namesThatAreNone();
+    }
+
+    /** Each name but for a letter: another one, one less, one more. */
+    private static void namesThatAreNone() {
+        String[] names = {"steady", "blink", "saw", "pair", "rows", "delay", "expose", "pace"};
+        for (int i = 0; i < names.length; i++) {
+            String numbers = i < 4 ? " 1 1 1;" : " 1;";
+            for (int at = 0; at < names[i].length(); at++) {
+                String head = names[i].substring(0, at);
+                String tail = names[i].substring(at + 1);
+                faulty(head + "z" + tail + numbers, 2, 0);
+                faulty(head + tail + numbers, 2, 0);
+                faulty(head + names[i].charAt(at) + "z" + tail + numbers, 2, 0);
+            }
+            faulty("z" + names[i] + numbers, 2, 0);
+        }
     }
 
     private static void faultOfBounds() {
@@ -513,6 +530,9 @@ public final class TermsEdgeTest {
         x.see(0, 0, 1);
         x.keep(0);
         x.keep(1);
+        // what is asked of shots ahead must not come back by a text
+        x.best(3, 2, 0);
+        x.phases(0);
         return x;
     }
 
